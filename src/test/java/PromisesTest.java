@@ -245,6 +245,8 @@ public final class PromisesTest {
         statusIs("the status stays", x, 1, 1, 0);
         due("the images stay", x.from(0), 1);
         due("members of the image", x.count(0), 2);
+        due("two near ones", read(x, "house;member 0 0;member 0 0;"), 3);
+        due("only one of them", read(x, "house;letter 0 0 1;member 0 0;frank 0 1;"), -10 - 38);
         due("a house alone", read(x, "house;"), 1);
         due("its members", x.count(0), 0);
         due("all that fits", read(x, "house;member 0 1;member 1 2;member 2 3;member 3 4;member 4 5;"
@@ -662,6 +664,9 @@ public final class PromisesTest {
         due("three covers left", y.stand(0, 1), 6);
         y.day();
         due("ten covers", y.stand(0, 1), 7);
+        SignedOutside z = told("house;member 4 0;letter 99 0 1;");
+        due("the last place", z.stand(0, 0), 99);
+        due("the last place", z.stand(0, 1), 7);
     }
 
     private static void promise20Penny() {
@@ -927,7 +932,11 @@ public final class PromisesTest {
         due("none", x.sessions(7, 0), 0);
         due("one", x.sessions(7, 1), x.about(SESSION_LETTER, 3));
         due("sixty", x.sessions(999999, 60), 11);
+        due("the least seed", x.sessions(0, 60), 11);
         due("nothing is changed", x.digest(), before);
+        x.moves(SESSION_MEMBER, 0);
+        due("the member is away", x.sessions(7, 1), 0);
+        x.undo();
         x.pay(SESSION_LETTER);
         due("paid for", x.sessions(7, 1), 0);
         x.frank(0, 0);
