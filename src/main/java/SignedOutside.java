@@ -647,7 +647,7 @@ public final class SignedOutside {
         }
 
         boolean mayFrank(int l, int m) {
-            return lies(l) && coversLeft(m) > 0 && suits(l, m, placeOf[m]);
+            return lies(l) && signed[m] < kindAt(m).signs(today) && suits(l, m, placeOf[m]);
         }
 
         int whoMayFrank(int l) {
@@ -1074,22 +1074,20 @@ public final class SignedOutside {
                 if (sort == END) {
                     return items;
                 }
-                if (!readItem(h) || !stops()) {
+                boolean isItem;
+                if (isWord("member")) {
+                    isItem = readMember(h);
+                } else if (isWord("letter")) {
+                    isItem = readLetter(h);
+                } else {
+                    isItem = isWord("frank") && readFrank(h);
+                }
+                if (!isItem || !stops()) {
                     return NONE;
                 }
                 items++;
             }
             return items;
-        }
-
-        private boolean readItem(House h) {
-            if (isWord("member")) {
-                return readMember(h);
-            }
-            if (isWord("letter")) {
-                return readLetter(h);
-            }
-            return isWord("frank") && readFrank(h);
         }
 
         private boolean readMember(House h) {

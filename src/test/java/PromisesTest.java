@@ -257,7 +257,7 @@ public final class PromisesTest {
 
     private static void promise7Faults() {
         Object[][] faults = {
-            {"", 0}, {"   ", 3}, {"house", 5}, {"house ", 6}, {"hous", 0}, {"houses;", 0}, {" member 0 0;", 1},
+            {"", 0}, {"   ", 3}, {"house", 5}, {"house ", 6}, {"hous", 0}, {"houses;", 0}, {"housez;", 0}, {"mouse;", 0}, {" member 0 0;", 1},
             {";", 0}, {"5", 0}, {"house;;", 6}, {"house house;", 6}, {"house 1;", 6}, {"house;house;", 6},
             {"house; house;", 7}, {"House;", 0}, {"hoUse;", 0}, {"house-", 5}, {"house;-", 6}, {"house;7", 6},
             {"house;frank", 11}, {"house;lord 1;", 6}, {"house;member", 12}, {"house;member 0", 14},
