@@ -40,6 +40,8 @@ public final class ReckonTest {
         found();
         sessionsNone();
         sessionsAsByHand();
+        sessionsOfWhoIsThere();
+        sessionsWhenADayGoesBy();
         check.end("ReckonTest");
     }
 
@@ -449,6 +451,8 @@ public final class ReckonTest {
         due("at 99: 21, halved by 10", covered(0, 99).look(0, 5), 68);
         due("at 50: 41, halved by 20", covered(0, 50).look(0, 5), 29);
         due("two places", covered(0, 0, 39).look(0, 5), 40);
+        due("two places, none of them in reach from 0", covered(0, 60, 99).look(0, 5), 59);
+        due("three places", covered(0, 60, 98).look(0, 5), 58);
         due("one place: all are alike", covered(0, 0, 40).look(0, 5), 0);
         due("one place of a dead one", covered(4, 0).look(0, 5), 0);
         due("one place of a dead one", covered(4, 99).look(0, 5), 0);
@@ -682,5 +686,39 @@ public final class ReckonTest {
             }
             check.holds("house " + number + " saves something, but for the dead ones", saved > 0 == (number != 4));
         }
+    }
+
+    /** "franked, if one MAY": who and what was there in an earlier house franks nothing and is not franked. */
+    private static void sessionsOfWhoIsThere() {
+        for (int members = 0; members <= 5; members++) {
+            for (int left = 0; left <= 6; left++) {
+                SignedOutside x = Houses.of(new int[][] {{0, 0}, {0, 0}, {0, 0}, {0, 0}, {0, 0}}, letters(6, 0, 0, 1));
+                x.house();
+                for (int m = 0; m < members; m++) {
+                    x.member(0, 0);
+                }
+                for (int l = 0; l < left; l++) {
+                    x.letter(0, 0, 1);
+                }
+                int saved = x.sessions(3, 60);
+                check.holds(members + " members, " + left + " letters: " + saved, saved <= left && (members > 0 || saved == 0));
+                due(members + " members, " + left + " letters", saved, byHand(x, 3, 60));
+            }
+        }
+    }
+
+    /**
+     * "X (the second one) by 1048576 (cut), by 4 left over, is 0: a DAY goes by then". The second X of these
+     * seeds is 1699 * 1048576 + 1048575, just ahead of such a stretch; 816 * 1048576 + 2, at its beginning;
+     * 517 * 1048576, just behind one. Behind day 6 the dead sign no more, so that the second letter tells it.
+     */
+    private static void sessionsWhenADayGoesBy() {
+        SignedOutside x = Houses.of(new int[][] {{4, 0}, {4, 0}, {4, 0}, {4, 0}, {4, 0}}, letters(6, 0, 0, 1));
+        Houses.days(x, 6);
+        due("just ahead", x.sessions(328537, 2), 2);
+        due("at the beginning", x.sessions(705764, 2), 1);
+        due("just behind", x.sessions(104754, 2), 2);
+        x.undo();
+        due("on day 5 there is a day left", x.sessions(705764, 2), 2);
     }
 }

@@ -87,8 +87,10 @@ public final class RulesTest {
     private static void sizes(Class<?> c) {
         int fields = 0;
         for (Field f : c.getDeclaredFields()) {
+            check.holds(f + " is of a type that the rules leave", isLeft(f.getType()));
             if (Modifier.isStatic(f.getModifiers())) {
                 check.holds(f + " is final", Modifier.isFinal(f.getModifiers()));
+                check.holds(f + " is a constant", STATIC_TYPES.contains(f.getType()));
             } else {
                 fields++;
             }
@@ -96,7 +98,22 @@ public final class RulesTest {
         check.holds("some twenty fields in " + c, fields <= 20);
         for (Method m : c.getDeclaredMethods()) {
             check.holds(m + " takes seven at most", m.getParameterCount() <= 7);
+            check.holds(m + " answers a type that the rules leave", m.getReturnType() == void.class || isLeft(m.getReturnType()));
+            for (Class<?> type : m.getParameterTypes()) {
+                check.holds(m + " takes types that the rules leave", isLeft(type));
+            }
         }
+    }
+
+    private static final Set<Class<?>> STATIC_TYPES = Set.of(int.class, long.class, boolean.class, char.class, String.class,
+        int[].class, long[].class, char[].class, byte[].class);
+
+    /** Rule 3: numbers, rows of them, own classes, rows of these, texts. */
+    private static boolean isLeft(Class<?> type) {
+        Class<?> inner = type.isArray() ? type.getComponentType() : type;
+        boolean own = inner.getName().startsWith("SignedOutside");
+        boolean table = inner.isArray() && inner.getComponentType().isPrimitive();
+        return inner.isPrimitive() || own || table || type == String.class || type == StringBuilder.class;
     }
 
     private static void source(String text) {
@@ -106,7 +123,7 @@ public final class RulesTest {
         for (String word : words) {
             check.holds("no " + word, !Pattern.compile("\\b" + Pattern.quote(word) + "\\b").matcher(code).find());
         }
-        for (String sign : new String[] {"->", "::", "Exact(", "@", "\" +", "+ \""}) {
+        for (String sign : new String[] {"->", "::", "Exact(", "@", "\" +", "+ \"", "static {", "while (true)", "for (;;)"}) {
             check.holds("no " + sign, !code.contains(sign));
         }
         Matcher imports = Pattern.compile("import ([^;]+);").matcher(code);

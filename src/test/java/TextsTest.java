@@ -29,6 +29,7 @@ public final class TextsTest {
         blanks();
         everyByte();
         takesThePlaceOfAll();
+        readAnew();
         clearing();
         check.end("TextsTest");
     }
@@ -429,6 +430,32 @@ public final class TextsTest {
             check.due("as it was", kept.digest(), twin.digest());
             check.due("with what may be undone", kept.count(6), twin.count(6));
         }
+    }
+
+    /** Each time THE HOUSE is read from its beginning: behind a fault, behind another one, behind sessions. */
+    private static void readAnew() {
+        String text = "house;member 2 22;letter 22 0 1;frank 0 0;";
+        SignedOutside due = Houses.told(text);
+        SignedOutside again = Houses.told(text);
+        check.due("read again", again.read(), 4);
+        twins.alike("read again", again, Houses.told(text));
+        SignedOutside behindFault = new SignedOutside();
+        check.due("a fault at its end", Houses.read(behindFault, "house;member 0 0;member 0 0;letter 0 0 1;frank 0 0;x"), -10 - 51);
+        check.due("behind a fault", Houses.read(behindFault, text), 4);
+        check.due("behind a fault", behindFault.digest(), due.digest());
+        SignedOutside behindOther = Houses.told("house;member 0 0;member 0 0;member 0 0;member 0 0;member 0 0;letter 0 0 1;frank 0 0;");
+        check.due("behind another", Houses.read(behindOther, text), 4);
+        check.due("behind another", behindOther.digest(), due.digest());
+        SignedOutside behindSessions = Houses.crowded();
+        behindSessions.house();
+        behindSessions.from(0);
+        behindSessions.sessions(5, 60);
+        check.due("behind sessions", Houses.read(behindSessions, text), 4);
+        check.due("members behind sessions", behindSessions.count(0), 1);
+        check.due("letters behind sessions", behindSessions.count(1), 1);
+        check.due("saved behind sessions", behindSessions.now(0), due.now(0));
+        check.due("the day behind sessions", behindSessions.count(2), 0);
+        check.due("steps behind sessions", behindSessions.count(6), 0);
     }
 
     /** "THE TEXT is empty: how many it had." */
